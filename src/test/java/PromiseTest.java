@@ -645,6 +645,8 @@ public final class PromiseTest {
         due("over a smaller one", x.guestAt(31, 6), 3);
         due("as tall", x.guestAt(67, 6), 7);
         due("nobody", x.guestAt(139, 6), 0);
+        put(x, 130, "ba1");
+        due("just ahead", x.guestAt(139, 6), 1);
         due("his side begins anew", x.guestAt(76, 6), 0);
         due("number", x.guestAt(76, 5), 5);
         due("empty", x.guestAt(5, 6), -2);
@@ -691,6 +693,11 @@ public final class PromiseTest {
         put(x, 138, "gb5");
         due("full", x.pew(1, 7, 2), 9);
         due("five of b", x.pew(1, 7, 3), 5);
+        put(x, 0, "ha5");
+        due("one of a", x.pew(0, 0, 3), 1);
+        put(x, 8, "hp5");
+        put(x, 7, "hp5");
+        due("two of p", x.pew(0, 0, 3), 2);
         due("no coat is left", x.pew(1, 7, 4), 0);
         for (int far : new int[] {-1, 8, Integer.MIN_VALUE, Integer.MAX_VALUE}) {
             due("pew side", x.pew(far, 0, 0), NONE);
@@ -722,6 +729,9 @@ public final class PromiseTest {
         put(x, 135, "ha5");
         due("one alone", x.together(0, 0), 0);
         due("one alone, where", x.together(0, 1), 15);
+        put(x, 140, "hp5");
+        due("of p", x.together(15, 1), 15);
+        moves(x, "140!");
         put(x, 20, "ga5");
         due("two", x.together(0, 0), 1);
         due("of like ones the lowest", x.together(0, 1), 2);
@@ -938,6 +948,17 @@ public final class PromiseTest {
         due("of four the lower", x.singers(1), 3);
         due("of four, far", x.singers(2), 10);
         due("four", x.singers(0), 4);
+        put(x, 8, "ha1s");
+        put(x, 1, "ha1s");
+        put(x, 72, "ha1s");
+        due("in front", x.singers(1), 1);
+        due("in front, far", x.singers(2), 3 + 0 + 2 + 6 + 6);
+        put(x, 73, "ha1s");
+        due("of eight the lower", x.singers(1), 0);
+        due("of eight, far", x.singers(2), 1 + 3 + 7 + 7);
+        moves(x, "0!");
+        put(x, 0, "ha1s");
+        due("nine", x.singers(0), 9);
         for (int far : new int[] {-1, 3, Integer.MIN_VALUE, Integer.MAX_VALUE}) {
             due("singers what", x.singers(far), NONE);
         }
@@ -960,6 +981,16 @@ public final class PromiseTest {
         due("two, where", x.strangers(1), 5);
         put(x, 4, "hc5");
         due("one has come", x.strangers(1), 8);
+        put(x, 72, "ha5");
+        put(x, 73, "hb5");
+        due("at the aisle", x.strangers(0), 3);
+        put(x, 0, "ha5");
+        put(x, 1, "hb5");
+        due("the first of all", x.strangers(1), 0);
+        put(x, 106, "hd5");
+        put(x, 107, "hd5");
+        put(x, 105, "he5");
+        due("the last two are of one", x.strangers(0), 6);
         for (int far : new int[] {-1, 2, Integer.MIN_VALUE, Integer.MAX_VALUE}) {
             due("strangers what", x.strangers(far), NONE);
         }
@@ -974,6 +1005,8 @@ public final class PromiseTest {
         }
         x.come(2);
         due("two are gone", x.inLine(0), 0);
+        due("children stay", x.inLine(3), 4);
+        due("singers stay", x.inLine(4), 5);
         due("a is gone", x.inLine(5), 2 | 1 << 15);
         for (int far : new int[] {-1, 6, Integer.MIN_VALUE, Integer.MAX_VALUE}) {
             due("inLine what", x.inLine(far), NONE);
@@ -985,6 +1018,11 @@ public final class PromiseTest {
         due("none", x.edge(0), 0);
         put(x, 3, "ha5c");
         due("nobody between", x.edge(0), 1);
+        put(x, 72, "ha5c");
+        put(x, 9, "ha5c");
+        put(x, 143, "ha5c");
+        due("at the aisle and alone at the wall", x.edge(0), 4);
+        moves(x, "72!;9!;143!");
         put(x, 5, "ha5c");
         put(x, 6, "ha5");
         put(x, 140, "ha5c");
@@ -1009,6 +1047,9 @@ public final class PromiseTest {
     private static void ushers() {
         due("one usher", ushers(1, 100, 5, 3, 4), 12);
         due("one usher, the last", ushers(1, 2, 5, 3, 4), 8);
+        due("one usher, the first", ushers(1, 0, 5, 3, 4), 0);
+        due("one guest", ushers(1, 100, 7), 7);
+        due("one guest begins", ushers(8, 0, 7), 0);
         due("the longest ends last", ushers(8, 100, 50, 3, 4), 50);
         due("two ushers", ushers(2, 100, 5, 3, 4), 7);
         due("two ushers, the last", ushers(2, 2, 5, 3, 4), 3);
