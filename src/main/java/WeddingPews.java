@@ -21,7 +21,7 @@ public final class WeddingPews {
     private final Text text = new Text(tape);
     private final Church church = new Church();
     private final Church keptChurch = new Church();
-    /** Where calls try what may not stay: guests that are only tried, moves that may have a fault. */
+    /** Where a call does what may not stay: guests are only tried, moves may have a fault. */
     private final Church trialChurch = new Church();
     private final LawReader lawReader = new LawReader(text);
     private final ListReader listReader = new ListReader(text);
@@ -421,7 +421,7 @@ public final class WeddingPews {
         }
     }
 
-    /** The first bytes of the tape, read from the left; behind its first fault nothing more is read. */
+    /** The first bytes of the tape, read from the left up to the first fault. */
     private static final class Text {
         static final int MOST_BYTES = 240;
         static final int CANT_STAND = 1;
@@ -433,7 +433,7 @@ public final class WeddingPews {
         static final int SOMEBODY_THERE = 8;
         private static final int END = -1;
 
-        private final Tape tape;
+        private final int[] bytes;
         private int end = 0;
         private int fault = 0;
         private int faultPlace = 0;
@@ -442,15 +442,15 @@ public final class WeddingPews {
         int sign = END;
 
         Text(Tape tape) {
-            this.tape = tape;
+            bytes = tape.bytes;
         }
 
         void open(int n) {
-            end = n;
+            end = Math.min(n, bytes.length);
             fault = 0;
             faultPlace = 0;
             place = 0;
-            sign = tape.byteAt(0);
+            sign = end > 0 ? bytes[0] : END;
         }
 
         boolean hasFault() {
@@ -477,7 +477,7 @@ public final class WeddingPews {
             if (place < end) {
                 place++;
             }
-            sign = place < end ? tape.byteAt(place) : END;
+            sign = place < end ? bytes[place] : END;
         }
 
         /** Skips this sign if it stands here. */
@@ -491,11 +491,12 @@ public final class WeddingPews {
 
         /** Skips this sign; it is a fault if it does not stand here. */
         boolean expects(char wanted) {
-            if (passes(wanted)) {
-                return true;
+            if (hasFault() || sign != wanted) {
+                fail(CANT_STAND, place);
+                return false;
             }
-            fail(CANT_STAND, place);
-            return false;
+            skip();
+            return true;
         }
 
         /** Which of these signs stands here, or NONE. */
@@ -600,16 +601,26 @@ public final class WeddingPews {
             return drawn % 10;
         }
 
+        int guestOn(int seat) {
+            return seat >= 0 && seat < SEATS ? guests[seat] : Guest.NOT_THERE;
+        }
+
+        int coatOn(int seat) {
+            return seat >= 0 && seat < SEATS ? coats[seat] : NONE;
+        }
+
         boolean isTaken(int seat) {
-            return guests[seat] != Guest.NOT_THERE;
+            return guestOn(seat) != Guest.NOT_THERE;
         }
 
         boolean isTakenBy(int seat, int family) {
-            return guests[seat] != Guest.NOT_THERE && Guest.familyOf(guests[seat]) == family;
+            int guest = guestOn(seat);
+            return guest != Guest.NOT_THERE && Guest.familyOf(guest) == family;
         }
 
         boolean isFreeFor(int seat, int family) {
-            return !isTaken(seat) && (coats[seat] == NONE || coats[seat] == family);
+            int coat = coatOn(seat);
+            return guestOn(seat) == Guest.NOT_THERE && (coat == NONE || coat == family);
         }
 
         int nearestToAisle(int pew, int family) {
@@ -632,7 +643,7 @@ public final class WeddingPews {
 
         private int sittingFrom(int first, int behind) {
             int many = 0;
-            for (int seat = first; seat < behind; seat++) {
+            for (int seat = Math.max(0, first); seat < behind && seat < SEATS; seat++) {
                 if (guests[seat] != Guest.NOT_THERE) {
                     many++;
                 }
@@ -678,7 +689,7 @@ public final class WeddingPews {
             int many = 0;
             for (int place = 0; place < PLACES; place++) {
                 int seat = pew * PLACES + place;
-                if (!isTaken(seat) && coats[seat] == family) {
+                if (guestOn(seat) == Guest.NOT_THERE && coatOn(seat) == family) {
                     many++;
                 }
             }
@@ -686,27 +697,33 @@ public final class WeddingPews {
         }
 
         void sitDown(int seat, int guest) {
-            climbed += sittingAisleward(seat);
-            guests[seat] = guest;
-            numbers[seat] = arrived;
+            if (isSeat(seat)) {
+                climbed += sittingAisleward(seat);
+                guests[seat] = guest;
+                numbers[seat] = arrived;
+            }
         }
 
         void exchange(int seat, int other) {
-            int guest = guests[seat];
-            int number = numbers[seat];
-            guests[seat] = guests[other];
-            numbers[seat] = numbers[other];
-            guests[other] = guest;
-            numbers[other] = number;
+            if (isSeat(seat) && isSeat(other)) {
+                int guest = guests[seat];
+                int number = numbers[seat];
+                guests[seat] = guests[other];
+                numbers[seat] = numbers[other];
+                guests[other] = guest;
+                numbers[other] = number;
+            }
         }
 
         void sendBack(int seat) {
-            guests[seat] = Guest.NOT_THERE;
-            standing++;
+            if (isSeat(seat)) {
+                guests[seat] = Guest.NOT_THERE;
+                standing++;
+            }
         }
 
         void leaveLine(int many) {
-            if (many > 0 && many <= waiting) {
+            if (many > 0 && many <= waiting && waiting <= MOST_IN_LINE) {
                 waiting -= many;
                 System.arraycopy(line, many, line, 0, waiting);
             }
@@ -826,7 +843,8 @@ public final class WeddingPews {
                 int value = values[step];
                 step++;
                 if (deed == NUMBER || deed == FACT) {
-                    if (high >= MOST_STACKED || deed == FACT && !isWithin(value, 0, facts.length - 1)) {
+                    if (high >= MOST_STACKED
+                            || deed == FACT && !isWithin(value, 0, facts.length - 1)) {
                         return 0;
                     }
                     stack[high] = deed == FACT ? facts[value] : value;
@@ -909,7 +927,7 @@ public final class WeddingPews {
             draft.closeRule();
         }
 
-        /** A part that holds leaps over the next one, and from behind that over the one behind it. */
+        /** A part that holds leaps over the next one, and from there over the one behind it. */
         private void readAnyOf(Law draft, int depth) {
             readAllOf(draft, depth);
             for (int more = 0; more < Text.MOST_BYTES && text.passes('|'); more++) {
@@ -1000,7 +1018,7 @@ public final class WeddingPews {
             this.text = text;
         }
 
-        /** They stand in the line's row already, but do not wait there till the whole list stands. */
+        /** They are put behind the line at once, but wait there only if the whole list stands. */
         int readBehindLine(Church church) {
             added = 0;
             readPart(church);
@@ -1033,7 +1051,7 @@ public final class WeddingPews {
         }
     }
 
-    /** Reads a text as moves, and moves the guests while it reads: a later line sees the earlier ones. */
+    /** Reads a text as moves, and moves while it reads: a line sees what those ahead have done. */
     private static final class MovesReader {
         private static final int MOST_LINES = 20;
         private static final int MOST_DIGITS = 3;
@@ -1072,7 +1090,7 @@ public final class WeddingPews {
             lines++;
         }
 
-        /** A seat at which somebody sits, or nobody; what it answers with a fault does not matter. */
+        /** A seat that is taken, or not; what it answers with a fault does not matter. */
         private int readSeat(Church trial, boolean taken) {
             if (text.hasFault()) {
                 return 0;
@@ -1177,7 +1195,9 @@ public final class WeddingPews {
             facts[4] = Guest.singerOf(guest);
             facts[5] = church.moreOnHers();
             facts[6] = church.arrived % 1000;
-            Arrays.fill(facts, FIRST_OF_PEW, FACTS_IN_ALL, 0);
+            for (int fact = FIRST_OF_PEW; fact < FACTS_IN_ALL; fact++) {
+                facts[fact] = 0;
+            }
         }
 
         private void tellPew(Church church, int pew, int family) {
@@ -1199,11 +1219,11 @@ public final class WeddingPews {
         private final int[] mostBefore = new int[ROW_SETS];
 
         int view(Church church, int seat) {
-            int height = Guest.heightOf(church.guests[seat]);
+            int height = Guest.heightOf(church.guestOn(seat));
             int row = seat / PLACES % ROWS;
             for (int ahead = 1; ahead <= row; ahead++) {
                 int other = seat - ahead * PLACES;
-                if (church.isTaken(other) && Guest.heightOf(church.guests[other]) >= height) {
+                if (church.isTaken(other) && Guest.heightOf(church.guestOn(other)) >= height) {
                     return ahead;
                 }
             }
@@ -1213,7 +1233,7 @@ public final class WeddingPews {
         int familiesIn(Church church, int pew) {
             int bits = 0;
             for (int place = 0; place < PLACES; place++) {
-                int guest = church.guests[pew * PLACES + place];
+                int guest = church.guestOn(pew * PLACES + place);
                 if (guest != Guest.NOT_THERE) {
                     bits |= 1 << Guest.familyOf(guest);
                 }
@@ -1247,7 +1267,7 @@ public final class WeddingPews {
             int many = 0;
             for (int place = 0; place < PLACES; place++) {
                 int seat = pew * PLACES + place;
-                if (!church.isTaken(seat) && church.coats[seat] != NONE) {
+                if (!church.isTaken(seat) && church.coatOn(seat) != NONE) {
                     many++;
                 }
             }
@@ -1297,7 +1317,7 @@ public final class WeddingPews {
         private boolean isBlind(Church church, int seat) {
             int ahead = seat - PLACES;
             return seat % SIDE_SEATS >= PLACES && church.isTaken(seat) && church.isTaken(ahead)
-                    && Guest.heightOf(church.guests[ahead]) > Guest.heightOf(church.guests[seat]);
+                    && Guest.heightOf(church.guestOn(ahead)) > Guest.heightOf(church.guestOn(seat));
         }
 
         /** Over how many they climb from the aisle on, or in the row in which they came. */
@@ -1356,7 +1376,7 @@ public final class WeddingPews {
             int many = 0;
             Arrays.fill(singersByRow, 0);
             for (int seat = 0; seat < SEATS; seat++) {
-                if (church.isTaken(seat) && Guest.singerOf(church.guests[seat]) == 1) {
+                if (church.isTaken(seat) && Guest.singerOf(church.guestOn(seat)) == 1) {
                     singersByRow[seat / PLACES % ROWS]++;
                     many++;
                 }
@@ -1388,7 +1408,7 @@ public final class WeddingPews {
         }
 
         private boolean isLonely(Church church, int seat) {
-            int family = Guest.familyOf(church.guests[seat]);
+            int family = Guest.familyOf(church.guestOn(seat));
             boolean hasAislewards = seat % PLACES > 0 && church.isTaken(seat - 1);
             boolean hasWallwards = seat % PLACES < PLACES - 1 && church.isTaken(seat + 1);
             boolean isBesideHis = hasAislewards && church.isTakenBy(seat - 1, family)
@@ -1425,7 +1445,7 @@ public final class WeddingPews {
         int children(Church church, boolean atEdge) {
             int many = 0;
             for (int seat = 0; seat < SEATS; seat++) {
-                if (church.isTaken(seat) && Guest.childOf(church.guests[seat]) == 1
+                if (church.isTaken(seat) && Guest.childOf(church.guestOn(seat)) == 1
                         && (church.sittingAisleward(seat) == 0) == atEdge) {
                     many++;
                 }
@@ -1433,7 +1453,7 @@ public final class WeddingPews {
             return many;
         }
 
-        /** Row by row: a set of places goes with any set of the row ahead that shares none with it. */
+        /** A set of a row's places goes with any set of the row ahead that shares none with it. */
         int mostApart(Church church, int side) {
             Arrays.fill(most, 0);
             for (int row = 0; row < ROWS; row++) {
@@ -1487,7 +1507,7 @@ public final class WeddingPews {
         private final int[] highSums = new int[1 << HALF];
         private final int[] freeAt = new int[MOST_USHERS];
         private final int[] rising = new int[MOST_HATS];
-        /** For a set of guests: ONE_USHER times the ushers that are full, and the minutes of the next. */
+        /** By sets of guests: ONE_USHER times the full ushers, and the next one's minutes. */
         private final int[] used = new int[1 << MOST_IN_ANY_ROW];
 
         Sums(Tape tape) {
@@ -1513,7 +1533,7 @@ public final class WeddingPews {
             return sum;
         }
 
-        /** Two halves keep the sums few: a set's sum is that of its low bits and of its high ones. */
+        /** In halves the sums are few: a set's sum is that of its low bits and of its high ones. */
         int balance(int n, int hers, int his, int what) {
             int low = Math.min(n, HALF);
             fillSums(0, low, lowSums);
@@ -1610,7 +1630,7 @@ public final class WeddingPews {
             return low;
         }
 
-        /** The fewest ushers that lead all within a limit that is as long as each guest at least. */
+        /** The fewest ushers that lead all within a limit, which no guest alone goes beyond. */
         private int ushersFor(int n, int limit) {
             used[0] = 0;
             for (int set = 1; set < 1 << n && set < used.length; set++) {
