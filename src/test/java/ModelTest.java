@@ -244,10 +244,13 @@ public final class ModelTest {
     }
 
     private String spoilt(String text) {
+        String signs = "ehyogbcsdkmnqrtwfa0123456789()[]!|&<>=+-*/%;, ";
+        if (random.nextInt(30) == 0) {
+            return signsAtRandom(text.substring(0, random.nextInt(text.length())), signs);
+        }
         if (random.nextInt(8) != 0) {
             return text;
         }
-        String signs = "ehyogbcsdkmnqrtwfa0123456789()[]!|&<>=+-*/%;, ";
         StringBuilder builder = new StringBuilder(text);
         int at = random.nextInt(text.length() + 1);
         char sign = signs.charAt(random.nextInt(signs.length()));
@@ -268,6 +271,17 @@ public final class ModelTest {
             default:
                 builder.setLength(at);
                 break;
+        }
+        return builder.toString();
+    }
+
+    /** Behind a text's beginning whatever comes, bytes above 127 among it. */
+    private String signsAtRandom(String beginning, String signs) {
+        StringBuilder builder = new StringBuilder(beginning);
+        int many = 1 + random.nextInt(30);
+        for (int i = 0; i < many; i++) {
+            builder.append(random.nextInt(20) == 0 ? (char) random.nextInt(256)
+                    : signs.charAt(random.nextInt(signs.length())));
         }
         return builder.toString();
     }
