@@ -26,9 +26,12 @@ public final class ModelTest {
     private final StringBuilder told = new StringBuilder();
     private int calls = 0;
     private boolean stopped = false;
+    /** One in so many tests and factors of a random law opens a bracket. */
+    private int nesting = 12;
 
     private ModelTest(long seed) {
-        random = new Random(seed);
+        // Seeds that lie side by side would begin with like numbers.
+        random = new Random(seed * 0x9E3779B97F4A7C15L);
     }
 
     public static void main(String[] args) {
@@ -81,7 +84,9 @@ public final class ModelTest {
             int which = random.nextInt(100);
             if (which < 12) {
                 tell("list", randomList(), 120);
-                call("come", kind == 0 ? 200 : 1 + random.nextInt(40));
+                if (kind != 1 || random.nextInt(12) == 0) {
+                    call("come", kind == 0 ? 200 : 1 + random.nextInt(40));
+                }
             } else if (which < 20) {
                 tell("moves", randomMoves(), 120);
             } else if (which < 26) {
@@ -95,7 +100,7 @@ public final class ModelTest {
             } else if (which < 36) {
                 call("undo");
             } else if (which < 40) {
-                call("come", number(1, 30));
+                call("come", number(1, kind == 1 ? 3 : 30));
             } else if (which < 60) {
                 ask();
             } else if (which < 80) {
@@ -238,7 +243,9 @@ public final class ModelTest {
                 call("check", side, number(0, 8));
                 break;
             default:
-                call("feed", random.nextInt(), 1, -1, 256, random.nextInt());
+                for (int i = random.nextInt(30) == 0 ? 14 : 1; i > 0; i--) {
+                    call("feed", random.nextInt(), 1, -1, 256, random.nextInt());
+                }
                 break;
         }
     }
@@ -288,7 +295,7 @@ public final class ModelTest {
 
     private String randomList() {
         StringBuilder builder = new StringBuilder();
-        int parts = 1 + random.nextInt(random.nextInt(6) == 0 ? 24 : 6);
+        int parts = 1 + random.nextInt(random.nextInt(4) == 0 ? 24 : 6);
         int families = 1 + random.nextInt(16);
         for (int i = 0; i < parts; i++) {
             if (i > 0) {
@@ -312,7 +319,12 @@ public final class ModelTest {
 
     private String randomMoves() {
         StringBuilder builder = new StringBuilder();
-        int lines = 1 + random.nextInt(random.nextInt(5) == 0 ? 23 : 4);
+        if (random.nextInt(12) == 0) {
+            String seat = seatLike(true);
+            String line = seat + "=" + seat;
+            return spoilt(line + (";" + line).repeat(17 + random.nextInt(6)));
+        }
+        int lines = 1 + random.nextInt(4);
         for (int i = 0; i < lines; i++) {
             if (i > 0) {
                 builder.append(';');
@@ -343,6 +355,7 @@ public final class ModelTest {
 
     private String randomLaw() {
         StringBuilder builder = new StringBuilder();
+        nesting = random.nextInt(3) == 0 ? 3 : 12;
         int rules = 1 + random.nextInt(random.nextInt(4) == 0 ? 18 : 5);
         boolean plain = rules > 6;
         for (int i = 0; i < rules; i++) {
@@ -364,7 +377,7 @@ public final class ModelTest {
 
     private String choice(int depth) {
         StringBuilder builder = new StringBuilder(part(depth));
-        while (random.nextInt(4) == 0) {
+        while (random.nextInt(4 + depth) == 0) {
             builder.append('|').append(part(depth));
         }
         return builder.toString();
@@ -372,19 +385,16 @@ public final class ModelTest {
 
     private String part(int depth) {
         StringBuilder builder = new StringBuilder(test(depth));
-        while (random.nextInt(4) == 0) {
+        while (random.nextInt(4 + depth) == 0) {
             builder.append('&').append(test(depth));
         }
         return builder.toString();
     }
 
     private String test(int depth) {
-        int which = random.nextInt(10);
-        if (depth < 8 && which == 0) {
-            return "!" + test(depth + 1);
-        }
-        if (depth < 8 && which == 1) {
-            return "(" + choice(depth + 1) + ")";
+        boolean nests = random.nextInt(nesting) == 0 && (depth < 6 || random.nextInt(8) == 0);
+        if (nests) {
+            return random.nextBoolean() ? "!" + test(depth + 1) : "(" + choice(depth + 1) + ")";
         }
         return sum(depth) + "<>=".charAt(random.nextInt(3)) + sum(depth);
     }
@@ -406,12 +416,12 @@ public final class ModelTest {
     }
 
     private String factor(int depth) {
-        int which = random.nextInt(20);
-        if (depth < 8 && which == 0) {
+        if (random.nextInt(2 * nesting) == 0 && (depth < 6 || random.nextInt(8) == 0)) {
             return "[" + sum(depth + 1) + "]";
         }
-        if (which < 8) {
-            return Integer.toString(random.nextInt(new int[] {2, 10, 100, 100000, 110000}[random.nextInt(5)]));
+        int most = new int[] {2, 10, 100, 1000, 100000, random.nextInt(8) == 0 ? 200000 : 5}[random.nextInt(6)];
+        if (random.nextInt(5) < 2) {
+            return Integer.toString(random.nextInt(most));
         }
         return "" + "sftcgqrnmkdw".charAt(random.nextInt(12));
     }
