@@ -5,11 +5,8 @@ import java.lang.reflect.Modifier;
 import java.util.Arrays;
 
 /** For each promise of the document: ordinary calls, the edges that it names, and wrong inputs. */
-public final class PromiseTest {
-    private static final int NONE = WeddingPews.NONE;
+public final class PromiseTest extends Talk {
     private static final int[] FAR_OFF = {Integer.MIN_VALUE, -1000, -2, 1000, Integer.MAX_VALUE};
-    private static int wrong = 0;
-    private static int asked = 0;
 
     public static void main(String[] args) {
         face();
@@ -54,79 +51,7 @@ public final class PromiseTest {
         count();
         tapeStays();
         longRun();
-        System.out.println("promises: " + asked + " asked, " + wrong + " wrong");
-        if (wrong != 0) {
-            System.exit(1);
-        }
-    }
-
-    private static void due(String what, long got, long want) {
-        asked++;
-        if (got != want) {
-            wrong++;
-            System.out.println(what + " answered " + got + ", due is " + want);
-        }
-    }
-
-    private static void due(String what, boolean got, boolean want) {
-        due(what, got ? 1 : 0, want ? 1 : 0);
-    }
-
-    // ---- help ----
-
-    private static void tape(WeddingPews x, int... bytes) {
-        for (int from = 0; from < bytes.length; from += 20) {
-            int[] five = new int[5];
-            for (int i = 0; i < 20; i++) {
-                five[i / 4] = five[i / 4] << 8 | (from + i < bytes.length ? bytes[from + i] & 255 : 0);
-            }
-            x.feed(five[0], five[1], five[2], five[3], five[4]);
-        }
-    }
-
-    private static void text(WeddingPews x, String text) {
-        tape(x, text.chars().toArray());
-    }
-
-    private static int law(WeddingPews x, String text) {
-        text(x, text);
-        return x.law(text.length());
-    }
-
-    private static int list(WeddingPews x, String text) {
-        text(x, text);
-        return x.list(text.length());
-    }
-
-    private static int moves(WeddingPews x, String text) {
-        text(x, text);
-        return x.moves(text.length());
-    }
-
-    /** One guest is put on one seat: coats of nobody else's family keep all others. */
-    private static void put(WeddingPews x, int seat, String guest) {
-        list(x, guest);
-        law(x, "e1(q=" + seat / 72 + "&r=" + seat / 9 % 8 + ")");
-        int family = guest.charAt(1) - 'a';
-        int[] before = new int[9];
-        for (int place = 0; place < 9; place++) {
-            int other = seat / 9 * 9 + place;
-            before[place] = x.coatAt(other);
-            x.coat(other, other == seat ? NONE : (family + 1) % 16);
-        }
-        x.come(1);
-        for (int place = 0; place < 9; place++) {
-            x.coat(seat / 9 * 9 + place, before[place] == -2 ? NONE : before[place]);
-        }
-        due("put at " + seat, x.guestAt(seat, 1), family);
-    }
-
-    /** Which pew a guest goes to by a law, or -2. */
-    private static int led(String law, String guest) {
-        WeddingPews x = new WeddingPews();
-        due(law, law(x, law) > 0, true);
-        list(x, guest);
-        return x.tried(1, 2);
+        end("promises");
     }
 
     private static void holds(String c, boolean want) {
@@ -464,14 +389,6 @@ public final class PromiseTest {
             due("moves n " + n, x.moves(n), NONE);
         }
         due("tape stays", x.count(8), 20);
-    }
-
-    private static WeddingPews twoInFront() {
-        WeddingPews x = new WeddingPews();
-        law(x, "e1(1=1)");
-        list(x, "ha5,gb6cs");
-        x.come(2);
-        return x;
     }
 
     private static void movesMove() {
@@ -847,21 +764,6 @@ public final class PromiseTest {
         }
         due("order side 2", x.order(2, 0, 0), NONE);
         due("order what 3", x.order(0, 0, 3), NONE);
-    }
-
-    /** A church in which so many seats of each pew, from the first on, are not taken; else none. */
-    private static WeddingPews churchWithLeft(int... left) {
-        WeddingPews x = new WeddingPews();
-        law(x, "y10(1=1)");
-        list(x, "9ha1" + ",9ha1".repeat(15));
-        x.come(200);
-        due("full", x.count(3), 144);
-        for (int pew = 0; pew < left.length; pew++) {
-            for (int i = 0; i < left[pew]; i++) {
-                moves(x, 9 * pew + 2 * i % 9 + "!");
-            }
-        }
-        return x;
     }
 
     private static int moreFit(WeddingPews x, int what, int... families) {
