@@ -1501,6 +1501,8 @@ public final class WeddingPews {
         private static final int HALF = 6;
         /** Above every sum of minutes of ten guests. */
         private static final int ONE_USHER = 1 << 12;
+        /** Above all that is reckoned here, where the least of something is looked for. */
+        private static final int ABOVE_ALL = 1 << 30;
 
         private final Tape tape;
         private final int[] lowSums = new int[1 << HALF];
@@ -1541,7 +1543,7 @@ public final class WeddingPews {
             int withNone = hers - his - sumOfFirst(n);
             int lowBits = (1 << low) - 1;
             int best = 0;
-            int least = Integer.MAX_VALUE;
+            int least = ABOVE_ALL;
             for (int set = 0; set < 1 << n && n <= MOST_FRIENDS; set++) {
                 int goHers = lowSums[set & lowBits] + highSums[set >> low];
                 int uneven = Math.abs(withNone + 2 * goHers);
@@ -1634,7 +1636,7 @@ public final class WeddingPews {
         private int ushersFor(int n, int limit) {
             used[0] = 0;
             for (int set = 1; set < 1 << n && set < used.length; set++) {
-                used[set] = Integer.MAX_VALUE;
+                used[set] = ABOVE_ALL;
                 for (int i = 0; i < n; i++) {
                     if ((set >> i & 1) == 1) {
                         int before = used[set - (1 << i)];

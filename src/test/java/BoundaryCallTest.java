@@ -160,9 +160,11 @@ public final class BoundaryCallTest extends Talk {
         String seventeen = "e1(q=0);".repeat(16) + "e";
         due("a 17th", law(x, seventeen), -4128);
         due("a 17th: the one before stays", x.tried(1, 2), 80);
-        due("in place of the one before", law(x, "e1(r=3)"), 1);
-        due("one rule", x.count(7), 1);
-        due("no o any more", x.tried(1, 2), 27);
+        for (int i = 0; i < 3; i++) {
+            due("in place of the one before", law(x, "e1(r=3)"), 1);
+            due("one rule", x.count(7), 1);
+            due("no o any more", x.tried(1, 2), 27);
+        }
         due("a place of three digits", law(x, "e11" + "+1".repeat(118) + "x"), -1239);
     }
 
@@ -221,7 +223,8 @@ public final class BoundaryCallTest extends Talk {
     private static void comingCalls() {
         test("So many come (1 to 200; as many as are in THE LINE): over how many they CLIMB in all; NONE: no such n.",
                 BoundaryCallTest::come);
-        test("So many more that come (1 to 200; as many as are in THE LINE) are tried", BoundaryCallTest::tried);
+        test("So many more that come (1 to 200; as many as are in THE LINE) are tried, what 0 over how many they CLIMB, 1 "
+                + "how many STAND of them", BoundaryCallTest::tried);
         test("2 the SEAT of the last one (STANDS: -2; nobody comes: -2)", () -> {
             WeddingPews x = new WeddingPews();
             for (int what = 0; what < 5; what++) {
@@ -236,6 +239,8 @@ public final class BoundaryCallTest extends Talk {
             law(x, "e1(f=1)");
             due("the first stands", x.tried(1, 2), -2);
             due("the last sits though", x.tried(2, 2), 0);
+            x.come(2);
+            due("one has sat down, nobody comes", x.tried(1, 2), -2);
         });
         test("3 how many more sit on side 0 than on side 1 then (below 0: fewer), 4 TORN FAMILIES then (bits); -1000: no "
                 + "such ones.", BoundaryCallTest::triedSides);
@@ -306,7 +311,9 @@ public final class BoundaryCallTest extends Talk {
     // ---- promises 9 to 14, 16, 18 to 22, 25, 31: what is asked ----
 
     private static void askingCalls() {
-        test("6 VIEW (nobody: 0); -2 (of all): nobody sits there; NONE: no such ones.", BoundaryCallTest::guestAt);
+        test("Of who sits on a SEAT, what 0 side, 1 FAMILY, 2 HEIGHT, 3 a child (1, 0), 4 a singer, 5 as the how manieth "
+                + "he came (0 on), 6 VIEW (nobody: 0); -2 (of all): nobody sits there; NONE: no such ones.",
+                BoundaryCallTest::guestAt);
         test("The FAMILY for which a SEAT is kept; -2: none; NONE: no such SEAT.", () -> {
             WeddingPews x = new WeddingPews();
             span("seat", x::coatAt, 0, 143, NONE);
@@ -318,6 +325,11 @@ public final class BoundaryCallTest extends Talk {
         });
         test("Of a PEW (side, ROW), what 0 how many sit there, 1 FAMILIES (bits), 2 RING (taken), 3 RING (one FAMILY), 4 "
                 + "COATS on SEATS that are not taken; NONE: no such ones.", BoundaryCallTest::pew);
+        test("TORN (bits).", () -> {
+            due("none", new WeddingPews().torn(), 0);
+            due("the lowest bit", seated("0:ha1 143:ha1").torn(), 1);
+            due("the highest bit", seated("0:hp1 143:hp1").torn(), 1 << 15);
+        });
         test("TOGETHER of a FAMILY (0 to 15), what 0 how many, 1 the PEW (8 times the side, and the ROW); -2: there is no "
                 + "such PEW; -3: nobody of it sits; NONE: no such ones.", BoundaryCallTest::together);
         test("SEES NOTHING, what 0 how many, 1 the first SEAT (-2: none); NONE: no such what.",
@@ -330,6 +342,9 @@ public final class BoundaryCallTest extends Talk {
                     span("what", what -> x.order(1, 7, what), 0, 2, NONE);
                     due("the last pew", x.order(1, 7, 1), 1);
                     due("the last pew, as they came", x.order(1, 7, 2), 0);
+                    WeddingPews y = seated("8:ha1 9:ha1");
+                    due("who sits in another pew is not climbed over", y.order(0, 1, 1), 0);
+                    due("nor as they came", y.order(0, 1, 2), 0);
                 });
         test("FATHERS on a side, so many ROWS apart, what 0 ways (two SEATS once), 1 the lower SEAT, 2 the other one; -2 "
                 + "(of 1, 2): none; NONE: no such ones.", () -> {
@@ -359,12 +374,18 @@ public final class BoundaryCallTest extends Talk {
         test("EDGE, what 0 children at the edge, 1 others; NONE: no such what.",
                 () -> span("what", new WeddingPews()::edge, 0, 1, NONE));
         test("PHOTO of a side; NONE: no such side.", () -> span("side", new WeddingPews()::photo, 0, 1, NONE));
-        test("10 + f how many of FAMILY f sit; 30 + i the FAMILY of the i-th in THE LINE (0 on; to 229). NONE for others.",
-                BoundaryCallTest::count);
+        test("0 how many have come, 1 in THE LINE, 2 STAND, 3 sit, 4 CLIMBED in all, 5 sit on side 0, 6 on side 1, 7 RULES, "
+                + "8 bytes of the tape, 9 X; 10 + f how many of FAMILY f sit; 30 + i the FAMILY of the i-th in THE LINE (0 "
+                + "on; to 229). NONE for others.", BoundaryCallTest::count);
     }
 
     private static void guestAt() {
-        WeddingPews x = seated("0:ha5 143:hp6");
+        WeddingPews x = seated("0:ha0 143:bp9cs");
+        int[][] want = {{0, 0, 0, 0, 0, 0, 0}, {2, 15, 9, 1, 1, 1, 0}};
+        for (int what = 0; what < 7; what++) {
+            due("the first seat, what " + what, x.guestAt(0, what), want[0][what]);
+            due("the last seat, what " + what, x.guestAt(143, what), want[1][what]);
+        }
         span("seat", seat -> x.guestAt(seat, 0), 0, 143, NONE);
         span("what", what -> x.guestAt(0, what), 0, 6, NONE);
         for (int what = 0; what < 7; what++) {
@@ -372,9 +393,6 @@ public final class BoundaryCallTest extends Talk {
         }
         due("nobody sits there, no such what", x.guestAt(1, 7), NONE);
         due("no such seat, no such what", x.guestAt(144, 7), NONE);
-        due("nobody is ahead", x.guestAt(143, 6), 0);
-        due("he came first", x.guestAt(0, 5), 0);
-        due("he came second", x.guestAt(143, 5), 1);
     }
 
     private static void pew() {
@@ -387,6 +405,7 @@ public final class BoundaryCallTest extends Talk {
         }
         due("nine coats", x.pew(0, 7, 4), 9);
         due("none in his first", x.pew(1, 0, 4), 0);
+        due("none in the row ahead", x.pew(0, 6, 4), 0);
         list(x, "ha1");
         law(x, "e1(r=7&q=0)");
         x.come(1);
@@ -408,6 +427,11 @@ public final class BoundaryCallTest extends Talk {
         due("nobody of b", x.together(1, 0), -3);
         due("nobody of b, the pew", x.together(1, 1), -3);
         WeddingPews full = churchWithLeft();
+        moves(full, "0!;143!");
+        list(full, "2hb1");
+        full.come(2);
+        due("two of b, in two full pews", full.together(1, 0), -2);
+        due("two of b, which", full.together(1, 1), -2);
         due("no such pew", full.together(0, 0), -2);
         due("no such pew, which", full.together(0, 1), -2);
         due("nobody of p, though full", full.together(15, 0), -3);
@@ -416,6 +440,10 @@ public final class BoundaryCallTest extends Talk {
     private static void inLine() {
         WeddingPews x = new WeddingPews();
         span("what", x::inLine, 0, 5, NONE);
+        list(x, "hc1");
+        due("one alone", x.inLine(5), 4);
+        due("one alone, hers", x.inLine(0), 1);
+        x.come(1);
         list(x, "9ha1c,9gp1s,9bh1cs");
         int[] want = {9, 9, 9, 18, 18, 1 << 15 | 1 << 7 | 1};
         for (int what = 0; what < 6; what++) {
@@ -444,12 +472,12 @@ public final class BoundaryCallTest extends Talk {
         x.come(1);
         due("none is left", x.count(30), NONE);
         WeddingPews y = seated("0:ha1 72:ha1 143:hp1");
-        int[] want = {3, 0, 0, 3};
+        tape(y, new int[40]);
+        y.seed(65535);
+        int[] want = {3, 0, 0, 3, 2, 1, 2, 1, 40, 65535};
         for (int what = 0; what < want.length; what++) {
             due("count " + what, y.count(what), want[what]);
         }
-        due("on side 0", y.count(5), 1);
-        due("on side 1", y.count(6), 2);
         due("of family a", y.count(10), 2);
         due("of family b", y.count(11), 0);
         due("of family p", y.count(25), 1);
@@ -467,6 +495,9 @@ public final class BoundaryCallTest extends Talk {
                     spanOnTape("his", (x, his) -> x.even(1, 0, his, 0), 0, 200, NONE);
                     spanOnTape("what", (x, what) -> x.even(1, 0, 0, what), 0, 1, NONE);
                     hasNotSoMany(x -> x.even(1, 0, 0, 0), NONE);
+                    firstBytes((x, n) -> x.even(n, 0, 0, 0), 1, 2, 3);
+                    firstBytes((x, n) -> x.even(n, 0, 0, 1), 31, 1, 1, 1, 1, 1, 5);
+                    firstBytes((x, n) -> x.even(n, 0, 9, 1), 127, 1, 1, 1, 1, 1, 1, 1);
                     due("the first twelve", onTape(x -> x.even(12, 0, 0, 1), NONE), 63);
                     due("the first alone", onTape(x -> x.even(1, 0, 200, 0), NONE), 199);
                 });
@@ -475,6 +506,8 @@ public final class BoundaryCallTest extends Talk {
                     spanOnTape("n", (x, n) -> x.moreFit(n, 0), 1, 6, NONE);
                     spanOnTape("what", (x, what) -> x.moreFit(1, what), 0, 1, NONE);
                     hasNotSoMany(x -> x.moreFit(1, 0), NONE);
+                    firstBytes((x, n) -> x.moreFit(n, 0), 2, 9, 9);
+                    firstBytes((x, n) -> x.moreFit(n, 1), 3, 9, 9);
                     for (int family = 0; family < 256; family++) {
                         WeddingPews x = new WeddingPews();
                         tape(x, 1, family);
@@ -493,6 +526,8 @@ public final class BoundaryCallTest extends Talk {
             spanOnTape("n", (x, n) -> x.leastTime(n, 1), 1, 10, NONE);
             spanOnTape("many", (x, many) -> x.leastTime(1, many), 1, 8, NONE);
             hasNotSoMany(x -> x.leastTime(1, 1), NONE);
+            firstBytes((x, n) -> x.leastTime(n, 1), 3, 1, 2);
+            firstBytes((x, n) -> x.leastTime(n, 8), 2, 1, 2);
             due("ten", onTape(x -> x.leastTime(10, 1), NONE), 10);
             due("ten by eight", onTape(x -> x.leastTime(10, 8), NONE), 2);
         });
@@ -501,11 +536,27 @@ public final class BoundaryCallTest extends Talk {
                     spanOnTape("n", (x, n) -> x.hats(n, 0), 1, 12, NONE);
                     spanOnTape("what", (x, what) -> x.hats(1, what), 0, 2, NONE);
                     hasNotSoMany(x -> x.hats(1, 0), NONE);
+                    firstBytes((x, n) -> x.hats(n, 0), 2, 1, 3, 2);
+                    firstBytes((x, n) -> x.hats(n, 1), 1, 1, 3, 2);
+                    firstBytes((x, n) -> x.hats(n, 2), 1, 1, 3, 2);
                     due("twelve", onTape(x -> x.hats(12, 2), NONE), 11);
                 });
     }
 
+    /** What stands behind the first n bytes, 255 or 0, does not count. */
+    private static void firstBytes(TapeCall call, int want, int... first) {
+        for (int behind : new int[] {0, 255}) {
+            WeddingPews x = new WeddingPews();
+            int[] bytes = java.util.Arrays.copyOf(first, 20);
+            java.util.Arrays.fill(bytes, first.length, 20, behind);
+            tape(x, bytes);
+            due(first.length + " bytes, " + behind + " behind them", call.ask(x, first.length), want);
+        }
+    }
+
     private static void ushers() {
+        firstBytes((x, n) -> x.ushers(n, 1, 100), 3, 1, 2);
+        firstBytes((x, n) -> x.ushers(n, 2, 100), 2, 1, 2);
         spanOnTape("n", (x, n) -> x.ushers(n, 1, 100), 1, 20, NONE);
         spanOnTape("many", (x, many) -> x.ushers(1, many, 100), 1, 8, NONE);
         hasNotSoMany(x -> x.ushers(1, 1, 100), NONE);
@@ -563,6 +614,7 @@ public final class BoundaryCallTest extends Talk {
                     spanOnTape("side", (x, side) -> x.check(side, 1), 0, 1, -2);
                     spanOnTape("n", (x, n) -> x.check(0, n), 0, 8, -2);
                     hasNotSoMany(x -> x.check(0, 1), -2);
+                    firstBytes((x, n) -> x.check(0, n), NONE, 0, 0);
                     due("none of an empty tape is right", new WeddingPews().check(1, 0), NONE);
                     due("none of a tape is right", onTape(x -> x.check(1, 0), -2), NONE);
                     due("the first is not so", onTape(x -> x.check(1, 8), -2), 0);

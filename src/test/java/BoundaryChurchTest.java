@@ -70,6 +70,18 @@ public final class BoundaryChurchTest extends Talk {
                 due("seat " + seat + ", what " + what, x.guestAt(seat, what), want[seat][what]);
             }
         }
+        for (int kind = 0; kind < 3 * 16 * 10 * 2 * 2; kind++) {
+            int[] parts = {kind % 3, kind / 3 % 16, kind / 48 % 10, kind / 480 % 2, kind / 960};
+            String guest = "hgb".charAt(parts[0]) + "" + (char) ('a' + parts[1]) + parts[2] + (parts[3] == 1 ? "c" : "")
+                    + (parts[4] == 1 ? "s" : "");
+            WeddingPews one = new WeddingPews();
+            law(one, "e1(1=1)");
+            list(one, guest);
+            one.come(1);
+            for (int what = 0; what < 5; what++) {
+                due(guest + ", what " + what, one.guestAt(0, what), parts[what]);
+            }
+        }
         for (int height = 0; height < 10; height++) {
             due("the law knows " + height, led("e1(t=" + height + ")", "ha" + height), 0);
         }
@@ -256,6 +268,8 @@ public final class BoundaryChurchTest extends Talk {
         due("nearest to the aisle that is free", ledByCoats("bbb......", first), 3);
         due("the only one, inside", ledByCoats("bbbb.bbbb", first + ";o(1=1)"), 4);
         due("the only one, outside", ledByCoats("bbbb.bbbb", first), 4);
+        due("the only one is at the aisle, inside", ledByCoats(".bbbbbbbb", first + ";o(1=1)"), 0);
+        due("the only one is at the wall, outside", ledByCoats("bbbbbbbb.", first), 8);
         due("as he likes, inside", led("y10(1=1);o(1=1)", "ha5"), 8);
         WeddingPews x = new WeddingPews();
         law(x, "e1(q=1&r=3);o(q=1&r=3&n=2)");
@@ -433,6 +447,11 @@ public final class BoundaryChurchTest extends Talk {
         due("of b", all.together(1, 0), 0);
         due("of b, in which", all.together(1, 1), 1);
         due("of c nobody sits", all.together(2, 0), -3);
+        WeddingPews elsewhere = new WeddingPews();
+        law(elsewhere, IN_ORDER);
+        list(elsewhere, "ha1,8hb1,ha1,8hc1");
+        elsewhere.come(18);
+        isTogether(elsewhere, 2, 2);
         isTogether(churchWithLeft(8, 8), -2, -2);
         isTogether(churchWithLeft(), -2, -2);
     }

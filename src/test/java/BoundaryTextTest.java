@@ -319,6 +319,9 @@ public final class BoundaryTextTest extends Talk {
         test("E: TERMS with + or - between two; a TERM: FACTORS with one of * / % between two; from the left on",
                 BoundaryTextTest::lawSum);
         test("a FACTOR: [E], a number of one to five digits, or a letter", BoundaryTextTest::lawFactor);
+        test("s his side, f his FAMILY, t his HEIGHT, c a child (1, 0), g a singer (1, 0), q the PEW's side, r its ROW, n "
+                + "how many sit there, m how many of his FAMILY sit there, k how many SEATS there are kept for his FAMILY "
+                + "that are not taken", BoundaryTextTest::lawLetters);
         test("d how many more sit on side 0 than on side 1 (below 0: fewer)", BoundaryTextTest::lawMoreOnHers);
         test("w how many have come so far modulo 1000 (q, r, n, m, k in y 0)", BoundaryTextTest::lawCome);
         test("All is reckoned with 32 bits, as the machine does", BoundaryTextTest::law32Bits);
@@ -345,6 +348,16 @@ public final class BoundaryTextTest extends Talk {
         due("all 240 are the law", x.tried(1, 2), 0);
         due("the end of 240 bytes", LAW.applyAsInt("e11" + "+1".repeat(118) + "+"), -1240);
         due("the last of 240 bytes", LAW.applyAsInt("e1" + "+1".repeat(116) + "(1=1))"), -1239);
+        due("59 tests, all of which hold", led("e1(" + "1=1&".repeat(58) + "1=1)", "ha5"), 0);
+        due("59 tests, the last does not", led("e1(" + "1=1&".repeat(58) + "1=2)", "ha5"), -2);
+        due("59 parts, the last holds", led("e1(" + "1=2|".repeat(58) + "1=1)", "ha5"), 0);
+        due("59 parts, none holds", led("e1(" + "1=2|".repeat(58) + "1=2)", "ha5"), -2);
+        WeddingPews often = new WeddingPews();
+        for (int i = 0; i < 30; i++) {
+            due("240 bytes, time " + i, law(often, longest), 1);
+        }
+        list(often, "ha5");
+        due("the last of many is the law", often.tried(1, 2), 0);
         eachBlank(LAW, "e[1+n]*2(!s=0&(t>3|c=1));y5(w<9);o(m=0)");
     }
 
@@ -407,6 +420,9 @@ public final class BoundaryTextTest extends Talk {
         holds("1=1", true);
         holds("0-1<0", true);
         holds("!1=2", true);
+        holds("!1=1", false);
+        holds("!1<2", false);
+        holds("!2>1", false);
         holds("!!1=2", false);
         holds("!1=2&1=2", false);
         holds("!1=1|1=1", true);
@@ -438,6 +454,59 @@ public final class BoundaryTextTest extends Talk {
                 "e[5][5](1=1)", "-1004");
         holds("99999=99998+1", true);
         holds("00007=7", true);
+    }
+
+    private static void lawLetters() {
+        String[] guests = {"ha0", "gh5c", "bp9s", "ga0cs"};
+        int[][] facts = {{0, 0, 0, 0, 0}, {1, 7, 5, 1, 0}, {2, 15, 9, 0, 1}, {1, 0, 0, 1, 1}};
+        for (int i = 0; i < guests.length; i++) {
+            for (int fact = 0; fact < 5; fact++) {
+                String c = "sftcg".charAt(fact) + "=" + facts[i][fact];
+                due(guests[i] + " " + c, led("e1(" + c + ")", guests[i]), 0);
+                due(guests[i] + " !" + c, led("e1(!" + c + ")", guests[i]), -2);
+            }
+        }
+        for (int pew = 0; pew < 16; pew++) {
+            due("pew " + pew, led("e1(q=" + pew / 8 + "&r=" + pew % 8 + ")", "ha5"), 9 * pew);
+        }
+        for (int many = 0; many < 9; many++) {
+            WeddingPews x = new WeddingPews();
+            list(x, "ha1,hb1,ha1,hb1,ha1,hb1,ha1,hb1".substring(0, Math.max(3, 4 * many - 1)));
+            law(x, many == 0 ? "o(1=1)" : "e1(q=0&r=0)");
+            x.come(9);
+            list(x, "ha1");
+            int his = (many + 1) / 2;
+            law(x, "e1(q=0&r=0&n=" + many + "&m=" + his + ")");
+            due("n is " + many + ", m is " + his, x.tried(1, 2), many);
+            law(x, "e1(q=0&r=0&(!n=" + many + "|!m=" + his + "))");
+            due("they are not anything else", x.tried(1, 2), -2);
+        }
+        for (int place = 0; place < 9; place++) {
+            WeddingPews x = new WeddingPews();
+            list(x, "hp1");
+            x.coat(9 + place, 15);
+            law(x, "e1(k=1)");
+            due("k by place " + place, x.tried(1, 2), 9);
+            x.coat(9 + place, 14);
+            due("k is 0 by another's " + place, x.tried(1, 2), -2);
+        }
+        WeddingPews beside = new WeddingPews();
+        list(beside, "hp1");
+        beside.coat(8, 15);
+        beside.coat(18, 15);
+        law(beside, "e1(q=0&r=1&k=0)");
+        due("the coats beside a pew are not in it", beside.tried(1, 2), 9);
+        WeddingPews x = new WeddingPews();
+        for (int seat = 135; seat < 144; seat++) {
+            x.coat(seat, 15);
+        }
+        list(x, "2hp1");
+        law(x, "e1(k=9)");
+        due("k is 9", x.tried(1, 2), 135);
+        x.come(1);
+        due("k is 9 no more", x.tried(1, 2), -2);
+        law(x, "e1(k=8)");
+        due("k is 8, one is taken", x.tried(1, 2), 136);
     }
 
     private static void lawMoreOnHers() {
@@ -594,5 +663,11 @@ public final class BoundaryTextTest extends Talk {
                 "o(![[[[1]]]]=1)", "1", "o(![[[[[1]]]]]=1)", "-5007", "o(!((((1=1)))))", "1", "o(!(((((1=1))))))",
                 "-5007", "o(!1=1&(((((1=1))))))", "1", "o(!(1=1)&(((((1=1))))))", "1", "o(!(1=1&((((1=1))))))", "-5011");
         each(LAW, "o((((((1=1))))));o((((((1=1))))))", "2");
+        String eight = "1+1*[1+1*[1+1*[1+1*[1+1*[1+1*[1+1*1]]]]]]";
+        due("six are reckoned", led("e7(r=0);e" + eight + "(r=1)", "ha5"), 9);
+        due("six are reckoned, no more", led("e9(r=0);e" + eight + "(r=1)", "ha5"), 0);
+        holds("2=2-1*[1+1*[1+1*[1+1*[1-1*[1+1*1]]]]]+1*1+1", true);
+        holds("!!!!!1=2", true);
+        holds("(((([1]=1))))", true);
     }
 }

@@ -16,6 +16,7 @@ public final class LanguageTest {
         String code = withoutTextsAndComments(source);
         forbiddenWords(code);
         imports(code);
+        library(code);
         sizes(code);
         constants(code);
         rowsAreMadeWithTheObject(code);
@@ -56,6 +57,19 @@ public final class LanguageTest {
         while (matcher.find()) {
             if (!matcher.group(1).equals("java.util.Arrays")) {
                 fault("import " + matcher.group(1));
+            }
+        }
+    }
+
+    /** Of the library's classes nothing is used but what stands in the rules. */
+    private static void library(String code) {
+        List<String> allowed = List.of("Math.min", "Math.max", "Math.abs", "Integer.bitCount", "Arrays.fill",
+                "System.arraycopy");
+        Matcher matcher = Pattern.compile("\\b(Math|Integer|Long|Arrays|System|Character|String)\\.\\w+").matcher(code);
+        while (matcher.find()) {
+            boolean isImport = matcher.start() > 0 && code.charAt(matcher.start() - 1) == '.';
+            if (!isImport && !allowed.contains(matcher.group())) {
+                fault("the source uses " + matcher.group());
             }
         }
     }
